@@ -58,7 +58,7 @@ public final class PhaseTones {
         if (isOutside(value, 1, GREATEST_CLIP)) {
             return BAD_VALUE;
         }
-        history.record(now);
+        history.keep(now);
         int previous = now.limit;
         now.limit = value;
         return previous;
@@ -71,7 +71,7 @@ public final class PhaseTones {
         if (isOutside(value, 0, GREATEST_VALUE)) {
             return BAD_VALUE;
         }
-        history.record(now);
+        history.keep(now);
         int index = table * PLACES + place;
         int previous = now.values[index];
         now.values[index] = value;
@@ -85,7 +85,7 @@ public final class PhaseTones {
         if (isOutside(step, 0, ROUND - 1)) {
             return BAD_VALUE;
         }
-        history.record(now);
+        history.keep(now);
         int previous = now.wheels[wheel].step;
         now.wheels[wheel].changeStep(step);
         return previous;
@@ -95,7 +95,7 @@ public final class PhaseTones {
         if (isNoWheel(wheel) || isNoTable(table)) {
             return NO_SUCH;
         }
-        history.record(now);
+        history.keep(now);
         int previous = now.wheels[wheel].table;
         now.wheels[wheel].table = table;
         return previous;
@@ -108,7 +108,7 @@ public final class PhaseTones {
         if (isOutside(volume, 0, GREATEST_VOLUME)) {
             return BAD_VALUE;
         }
-        history.record(now);
+        history.keep(now);
         int previous = now.wheels[wheel].volume;
         now.wheels[wheel].volume = volume;
         return previous;
@@ -121,7 +121,7 @@ public final class PhaseTones {
         if (now.wheels[wheel].isOn == isOn) {
             return NOT_POSSIBLE;
         }
-        history.record(now);
+        history.keep(now);
         now.wheels[wheel].isOn = isOn;
         return Integer.bitCount(now.maskOfOn());
     }
@@ -133,7 +133,7 @@ public final class PhaseTones {
         if (isOutside(phase, 0, ROUND - 1)) {
             return BAD_VALUE;
         }
-        history.record(now);
+        history.keep(now);
         int previous = now.wheels[wheel].phase;
         now.wheels[wheel].phase = phase;
         return previous;
@@ -149,7 +149,7 @@ public final class PhaseTones {
         if (now.wheels[wheel].sweeps >= SWEEPS) {
             return TOO_MANY;
         }
-        history.record(now);
+        history.keep(now);
         now.wheels[wheel].addSweep(end, samples);
         return now.wheels[wheel].sweeps;
     }
@@ -161,7 +161,7 @@ public final class PhaseTones {
         if (now.hasNoRoomFor(samples)) {
             return TOO_MANY;
         }
-        history.record(now);
+        history.keep(now);
         now.makeSome(samples);
         return now.mixtureAgo(0);
     }
@@ -170,7 +170,7 @@ public final class PhaseTones {
         if (pad.findFault() != NONE) {
             return BAD_TEXT;
         }
-        history.record(now);
+        history.keep(now);
         int done = 0;
         pad.at = 0;
         for (int i = 0; i < LONGEST_PAD && pad.readOrder(); i++) {
@@ -350,7 +350,7 @@ public final class PhaseTones {
         if (!slots.isSaved[slot]) {
             return NOT_POSSIBLE;
         }
-        history.record(now);
+        history.keep(now);
         now.takeOver(slots.sounds[slot]);
         return now.made;
     }
@@ -675,7 +675,7 @@ public final class PhaseTones {
             }
         }
 
-        void record(Sound sound) {
+        void keep(Sound sound) {
             states[next].takeOver(sound);
             next = next + 1 < STATES_KEPT ? next + 1 : 0;
             kept = Math.min(kept + 1, STATES_KEPT);

@@ -27,6 +27,7 @@ final class WhatIfTest {
         Due.is("ifMade(2000, 1)", x.ifMade(2000, 1), 0);
         Due.is("ifMade(2000, 2)", x.ifMade(2000, 2), 0);
         Due.is("ifMade(2000, 3)", x.ifMade(2000, 3), 1999 % 64 / 4 * 8);
+        Due.is("the greatest one is 0", x.ifMade(4, 0), 0);
         x.phase(0, 65535);
         x.step(0, 0);
         Due.is("the least one is not 0", x.ifMade(5, 1), 120);
