@@ -20,6 +20,11 @@ final class Due {
         is(what, holds ? 1 : 0, 1);
     }
 
+    /** How many answers were asked for so far. */
+    static int askedSoFar() {
+        return asked;
+    }
+
     /** How many answers were wrong so far. */
     static int wrongSoFar() {
         return wrong;
@@ -74,11 +79,11 @@ final class Due {
         for (int ago = 0; ago < 32; ago++) {
             all.append(x.sample(ago)).append(' ');
         }
-        for (int samples : new int[] {1, 7, 300, 2000}) {
+        for (int samples : new int[] {1, 7, 300}) {
             for (int what = 0; what < 4; what++) {
                 all.append(x.ifMade(samples, what)).append(' ');
             }
         }
-        return all.append(x.untilClip()).toString();
+        return all.append(x.ifMade(2000, 3)).append(' ').append(x.untilClip()).toString();
     }
 }
