@@ -56,7 +56,10 @@ final class ChangesBoundaries {
         Due.is("fill(0, 15, 8)", x.fill(0, 15, 8), 15);
         Due.is("fill(3, 0, 7)", x.fill(3, 0, 7), 0);
         Due.is("fill(3, 15, 6)", x.fill(3, 15, 6), 0);
-        int[][] want = {{0, 0, 9}, {0, 1, 1}, {0, 14, 14}, {0, 15, 8}, {1, 0, 0}, {2, 15, 0}, {3, 0, 7}, {3, 1, 0}, {3, 14, 0}, {3, 15, 6}};
+        int[][] want = {
+            {0, 0, 9}, {0, 1, 1}, {0, 14, 14}, {0, 15, 8}, {1, 0, 0}, {2, 15, 0}, {3, 0, 7}, {3, 1, 0},
+            {3, 14, 0}, {3, 15, 6},
+        };
         for (int[] one : want) {
             Due.is("valueOf(" + one[0] + ", " + one[1] + ")", x.valueOf(one[0], one[1]), one[2]);
         }
@@ -456,6 +459,21 @@ final class ChangesBoundaries {
         x.make(4);
         Due.is("behind the fourth", x.wheel(0, 1), 4000);
         Due.is("the row is empty", x.wheel(0, 5), 0);
+    }
+
+    @Says(in = "Promise 9: sweep", sentence = "Adds a sweep behind those that a wheel has.")
+    static void aSweepAddedInTheMiddleOfOneLeavesItAsItIs() {
+        PhaseTones x = new PhaseTones();
+        x.sweep(0, 1424, 4);
+        x.make(1);
+        x.sweep(0, 0, 1);
+        Due.is("samples of both", x.wheel(0, 9), 4);
+        int[] steps = {1224, 1324, 1424, 0};
+        for (int step : steps) {
+            x.make(1);
+            Due.is("the step", x.wheel(0, 1), step);
+        }
+        Due.is("both are done", x.wheel(0, 5), 0);
     }
 
     @Says(in = "Promise 9: sweep", sentence = "This is a change.")

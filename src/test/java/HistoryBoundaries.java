@@ -182,7 +182,9 @@ final class HistoryBoundaries {
         Due.is("restore(0) again", x.restore(0), 3);
     }
 
-    @Says(in = "Promise 24: undo", sentence = "Undoes the latest change: everything except the pad, the slots and the history is as it was before it.")
+    @Says(
+        in = "Promise 24: undo",
+        sentence = "Undoes the latest change: everything except the pad, the slots and the history is as it was before it.")
     static void undoBringsBackSamplesSweepsAndCounts() {
         PhaseTones x = new PhaseTones();
         x.sweep(0, 30000, 20);

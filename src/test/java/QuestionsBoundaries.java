@@ -337,6 +337,24 @@ final class QuestionsBoundaries {
     }
 
     @Says(in = "Promise 16: count", sentence = "6 how often the mixture became greater than it was in the sample before, so far")
+    static void countOfRisesBeginsWithTheSecondSample() {
+        PhaseTones x = new PhaseTones();
+        x.step(0, 4096);
+        x.make(1);
+        Due.is("behind the first sample", x.count(6), 0);
+        x.make(1);
+        Due.is("behind the second, greater by 8", x.count(6), 1);
+        x.make(14);
+        Due.is("behind the last one of a round", x.count(6), 15);
+        x.make(1);
+        Due.is("behind the fall to 0", x.count(6), 15);
+        x = new PhaseTones();
+        x.phase(0, 65535);
+        x.make(1);
+        Due.is("a first sample that is not 0", x.count(6), 0);
+    }
+
+    @Says(in = "Promise 16: count", sentence = "6 how often the mixture became greater than it was in the sample before, so far")
     static void countOfRisesIsOfTheClippedMixtures() {
         PhaseTones x = new PhaseTones();
         x.clip(8);
@@ -346,7 +364,9 @@ final class QuestionsBoundaries {
         Due.is("and that of the next round", x.count(6), 2);
     }
 
-    @Says(in = "Promise 16: count", sentence = "7 behind how many samples all wheels that are on are where they were together (1 without any)")
+    @Says(
+        in = "Promise 16: count",
+        sentence = "7 behind how many samples all wheels that are on are where they were together (1 without any)")
     static void countOfTheCommonRoundGoesFrom1To65536() {
         PhaseTones x = new PhaseTones();
         x.turn(0, false);

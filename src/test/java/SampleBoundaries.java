@@ -23,7 +23,9 @@ final class SampleBoundaries {
 
     // ---- samples
 
-    @Says(in = "Samples", sentence = "each wheel that is on gives the value of its table that its phase divided by 4096 tells, times its volume")
+    @Says(
+        in = "Samples",
+        sentence = "each wheel that is on gives the value of its table that its phase divided by 4096 tells, times its volume")
     static void theValueChangesWhereTheNextPlaceBegins() {
         PhaseTones x = new PhaseTones();
         x.fill(0, 0, 5);
@@ -73,7 +75,10 @@ final class SampleBoundaries {
 
     @Says(in = "Samples", sentence = "its phase becomes (its phase and its step) left over by 65536")
     static void thePhaseWrapsAround() {
-        int[][] cases = {{65535, 1, 0}, {65534, 1, 65535}, {1, 65535, 0}, {65535, 65535, 65534}, {0, 65535, 65535}, {32768, 32768, 0}, {9, 0, 9}};
+        int[][] cases = {
+            {65535, 1, 0}, {65534, 1, 65535}, {1, 65535, 0}, {65535, 65535, 65534}, {0, 65535, 65535},
+            {32768, 32768, 0}, {9, 0, 9},
+        };
         for (int[] one : cases) {
             PhaseTones x = new PhaseTones();
             x.phase(0, one[0]);
@@ -106,7 +111,9 @@ final class SampleBoundaries {
 
     // ---- sweeps
 
-    @Says(in = "Samples", sentence = "When it begins (as the first in its row), the step that the wheel has then is where it begins.")
+    @Says(
+        in = "Samples",
+        sentence = "When it begins (as the first in its row), the step that the wheel has then is where it begins.")
     static void aSweepBeginsWhereTheOneAheadOfItEnded() {
         PhaseTones x = new PhaseTones();
         x.sweep(0, 5024, 2);
@@ -119,7 +126,9 @@ final class SampleBoundaries {
         }
     }
 
-    @Says(in = "Samples", sentence = "When it begins (as the first in its row), the step that the wheel has then is where it begins.")
+    @Says(
+        in = "Samples",
+        sentence = "When it begins (as the first in its row), the step that the wheel has then is where it begins.")
     static void aSweepBehindADoneOneBeginsAtTheStepOfThen() {
         PhaseTones x = new PhaseTones();
         x.sweep(0, 2000, 1);
@@ -159,7 +168,9 @@ final class SampleBoundaries {
         }
     }
 
-    @Says(in = "Samples", sentence = "the step becomes its beginning and (its end less its beginning) * k / (its number of samples)")
+    @Says(
+        in = "Samples",
+        sentence = "the step becomes its beginning and (its end less its beginning) * k / (its number of samples)")
     static void theGreatestSweepsAreExact() {
         PhaseTones down = withStep(65535);
         down.sweep(0, 0, 999);
@@ -177,7 +188,9 @@ final class SampleBoundaries {
         }
     }
 
-    @Says(in = "Samples", sentence = "the step becomes its beginning and (its end less its beginning) * k / (its number of samples)")
+    @Says(
+        in = "Samples",
+        sentence = "the step becomes its beginning and (its end less its beginning) * k / (its number of samples)")
     static void aSweepToItsBeginningStays() {
         PhaseTones x = new PhaseTones();
         x.sweep(0, 1024, 2);
@@ -188,7 +201,9 @@ final class SampleBoundaries {
         Due.is("it is done even so", x.wheel(0, 5), 0);
     }
 
-    @Says(in = "Samples", sentence = "Behind as many times as its number of samples it is done, and the next sweep of the row begins.")
+    @Says(
+        in = "Samples",
+        sentence = "Behind as many times as its number of samples it is done, and the next sweep of the row begins.")
     static void aSweepIsDoneBehindItsLastSample() {
         PhaseTones x = new PhaseTones();
         x.sweep(0, 3024, 2);

@@ -21,7 +21,9 @@ final class TermsBoundaries {
 
     // ---- conventions
 
-    @Says(in = "Terms", sentence = "it names its errors in the order in which they are checked, and the first one that applies is returned")
+    @Says(
+        in = "Terms",
+        sentence = "it names its errors in the order in which they are checked, and the first one that applies is returned")
     static void theFirstErrorThatAppliesIsReturned() {
         Boundary.refused("fill(4, 0, 16)", x -> x.fill(4, 0, 16), Due.NO_SUCH);
         Boundary.refused("fill(0, 16, 16)", x -> x.fill(0, 16, 16), Due.NO_SUCH);
@@ -139,7 +141,10 @@ final class TermsBoundaries {
         Boundary.refused("fill(3, 15, 16)", y -> y.fill(3, 15, 16), Due.BAD_VALUE);
     }
 
-    @Says(in = "Settings", sentence = "in the table 1, 2 * k, if k is below 8, otherwise 30 less 2 * k; in the table 2, 15, if k is below 8, otherwise 0")
+    @Says(
+        in = "Settings",
+        sentence = "in the table 1, 2 * k, if k is below 8, otherwise 30 less 2 * k; in the table 2, 15, if k is below "
+            + "8, otherwise 0")
     static void theFirstTablesTurnAtThePlace8() {
         PhaseTones x = new PhaseTones();
         int[] places = {0, 7, 8, 15};
@@ -165,7 +170,10 @@ final class TermsBoundaries {
         }
     }
 
-    @Says(in = "Settings", sentence = "A wheel has a phase, 0 to 65535 (0 at first), a step, 0 to 65535 (1024 at first), a table (0 at first), a volume, 0 to 16 (8 at first)")
+    @Says(
+        in = "Settings",
+        sentence = "A wheel has a phase, 0 to 65535 (0 at first), a step, 0 to 65535 (1024 at first), a table (0 at "
+            + "first), a volume, 0 to 16 (8 at first)")
     static void aWheelTakesTheLeastAndTheGreatest() {
         int[] first = {0, 1024, 0, 8};
         int[] greatest = {65535, 65535, 3, 16};

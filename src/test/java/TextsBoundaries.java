@@ -49,13 +49,16 @@ final class TextsBoundaries {
         dueFault("0o0o", 2);
     }
 
-    @Says(in = "Texts", sentence = "order = wheel \"s\" step | wheel \"t\" table | wheel \"v\" volume | wheel \"o\" | wheel \">\" step \":\" samples | \".\" samples")
+    @Says(
+        in = "Texts",
+        sentence = "order = wheel \"s\" step | wheel \"t\" table | wheel \"v\" volume | wheel \"o\" | wheel \">\" step "
+            + "\":\" samples | \".\" samples")
     static void anOrderHasItsSignsAndNoOther() {
         dueGood("0s1", "0t1", "0v1", "0o", "0>1:1", ".1");
-        for (String sign : new String[] {"S", "T", "V", "O", "<", ".", ":", ";", "r", "u", "w", "n", "p", "/", "!", "~", "0", "9"}) {
+        for (char sign : "STVO<.:;ruwnp/!~09".toCharArray()) {
             dueFault("0" + sign + "1", 1);
         }
-        for (String sign : new String[] {"s", "t", "v", "o", ">", ":", ";", "-", "/", "!", "~", "4", "9"}) {
+        for (char sign : "stvo>:;-/!~49".toCharArray()) {
             dueFault(sign + "1", 0);
         }
         dueFault("0>1;1", 3);
@@ -79,7 +82,10 @@ final class TextsBoundaries {
     static void theOrdersDoTheLeastAndTheGreatest() {
         PhaseTones x = Boundary.withPad("0s65535;0t3;0v16;1s0;1t0;1v0;2>65535:999;3>0:1;.1;.999");
         Due.is("run()", x.run(), 10);
-        int[][] want = {{0, 1, 65535}, {0, 2, 3}, {0, 3, 16}, {1, 1, 0}, {1, 2, 0}, {1, 3, 0}, {2, 10, 65535}, {2, 9, 999}, {3, 10, 0}, {3, 9, 1}};
+        int[][] want = {
+            {0, 1, 65535}, {0, 2, 3}, {0, 3, 16}, {1, 1, 0}, {1, 2, 0}, {1, 3, 0}, {2, 10, 65535},
+            {2, 9, 999}, {3, 10, 0}, {3, 9, 1},
+        };
         for (int[] one : want) {
             Due.is("wheel(" + one[0] + ", " + one[1] + ")", x.wheel(one[0], one[1]), one[2]);
         }
@@ -113,7 +119,8 @@ final class TextsBoundaries {
 
     @Says(in = "Texts", sentence = "a step is a number from 0 to 65535")
     static void stepsAreFrom0To65535() {
-        dueGood("0s0", "0s9", "0s10", "0s6553", "0s6554", "0s9999", "0s10000", "0s65535", "0s65529", "0s59999", "0>0:1", "0>65535:1", "0>9999:1");
+        dueGood("0s0", "0s9", "0s10", "0s6553", "0s6554", "0s9999", "0s10000", "0s59999", "0s65529", "0s65535");
+        dueGood("0>0:1", "0>9999:1", "0>65535:1");
         dueFault("0s65536", 6);
         dueFault("0s65539", 6);
         dueFault("0s65540", 6);
@@ -165,7 +172,10 @@ final class TextsBoundaries {
         dueFault(".00", 1);
     }
 
-    @Says(in = "Texts", sentence = "The fault is the index of the first character that cannot stand at its place when the text is read from left to right")
+    @Says(
+        in = "Texts",
+        sentence = "The fault is the index of the first character that cannot stand at its place when the text is read "
+            + "from left to right")
     static void theFaultIsTheFirstOfSeveral() {
         dueFault("0x;0y", 1);
         dueFault("0o;0y;4", 4);
@@ -184,9 +194,14 @@ final class TextsBoundaries {
         dueFault("1t2;0v161", 8);
     }
 
-    @Says(in = "Texts", sentence = "if there is none and the text ends too early (also if it is empty), it is the length of the text")
+    @Says(
+        in = "Texts",
+        sentence = "if there is none and the text ends too early (also if it is empty), it is the length of the text")
     static void theFaultOfATextThatEndsTooEarlyIsItsLength() {
-        for (String text : new String[] {"", "0", "3", "0s", "0t", "0v", "0>", "0>1", "0>65535", "0>1:", ".", "0o;", "0o;0", ".1;.", "0s1;"}) {
+        String[] texts = {
+            "", "0", "3", "0s", "0t", "0v", "0>", "0>1", "0>65535", "0>1:", ".", "0o;", "0o;0", ".1;.", "0s1;",
+        };
+        for (String text : texts) {
             dueFault(text, text.length());
         }
     }
@@ -308,7 +323,9 @@ final class TextsBoundaries {
         }
     }
 
-    @Says(in = "Promise 21: put", sentence = "its lowest 8 bits are the last character, the next 8 bits the one before, and so on")
+    @Says(
+        in = "Promise 21: put",
+        sentence = "its lowest 8 bits are the last character, the next 8 bits the one before, and so on")
     static void putAppendsTheHighestFirst() {
         PhaseTones x = new PhaseTones();
         x.put(0x3073L);

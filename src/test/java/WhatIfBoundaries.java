@@ -64,6 +64,24 @@ final class WhatIfBoundaries {
         Due.is("the least with the least CLIP", x.ifMade(7, 1), 1);
     }
 
+    @Says(in = "Promise 17: ifMade", sentence = "- `what`: 0 the greatest mixture of them, 1 the least")
+    static void ifMadeTellsTheFirstTheMiddleAndTheLastSampleApart() {
+        PhaseTones x = new PhaseTones();
+        x.step(0, 4096);
+        x.fill(0, 0, 4);
+        x.fill(0, 1, 9);
+        x.fill(0, 2, 6);
+        int[][] want = {{32, 32, 0, 32}, {72, 32, 0, 72}, {72, 32, 0, 48}, {72, 24, 0, 24}};
+        for (int samples = 1; samples <= 4; samples++) {
+            for (int what = 0; what < 4; what++) {
+                Due.is("ifMade(" + samples + ", " + what + ")", x.ifMade(samples, what), want[samples - 1][what]);
+            }
+        }
+        x.clip(71);
+        Due.is("one of them is clipped", x.ifMade(4, 2), 1);
+        Due.is("the greatest is clipped", x.ifMade(4, 0), 71);
+    }
+
     @Says(in = "Promise 17: ifMade", sentence = "1 the least, 2 how many of them would be clipped, 3 the latest mixture")
     static void ifMadeLeavesOutWhatWasMadeAndWhatIsOfExactlyClip() {
         PhaseTones x = new PhaseTones();
@@ -192,7 +210,10 @@ final class WhatIfBoundaries {
         }
     }
 
-    @Says(in = "Promise 19: bestStep", sentence = "Finds the step, 1 to 32768, with which a wheel would be where it was behind a number of samples that is the nearest to a wanted one")
+    @Says(
+        in = "Promise 19: bestStep",
+        sentence = "Finds the step, 1 to 32768, with which a wheel would be where it was behind a number of samples "
+            + "that is the nearest to a wanted one")
     static void bestStepDoesNotDependOnTheWheels() {
         PhaseTones x = new PhaseTones();
         PhaseTones busy = Boundary.busy();
@@ -214,7 +235,10 @@ final class WhatIfBoundaries {
 
     @Says(in = "Promise 20: untilRound", sentence = "when its phase has become less than it was in the sample before")
     static void untilRoundSeesThePhaseBecome0() {
-        int[][] cases = {{65535, 1, 1}, {65534, 1, 2}, {0, 1, 65536}, {1, 65535, 1}, {0, 65535, 2}, {0, 32768, 2}, {32768, 32768, 1}, {64512, 1024, 1}, {64511, 1024, 2}};
+        int[][] cases = {
+            {65535, 1, 1}, {65534, 1, 2}, {0, 1, 65536}, {1, 65535, 1}, {0, 65535, 2}, {0, 32768, 2},
+            {32768, 32768, 1}, {64512, 1024, 1}, {64511, 1024, 2},
+        };
         for (int[] one : cases) {
             PhaseTones x = new PhaseTones();
             x.phase(0, one[0]);
