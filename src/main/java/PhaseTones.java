@@ -663,10 +663,11 @@ public final class PhaseTones {
         }
     }
 
-    /** The states before the latest changes, in a ring: the newest is the one before the index next. */
+    /** The states before the latest changes, in a ring: the state of the record n is at n left over by STATES_KEPT. */
     private static final class History {
         final Sound[] states = new Sound[STATES_KEPT];
-        int next;
+        /** Changes that were recorded, less those that were undone. */
+        int recorded;
         int kept;
 
         History() {
@@ -676,16 +677,16 @@ public final class PhaseTones {
         }
 
         void keep(Sound sound) {
-            states[next].takeOver(sound);
-            next = next + 1 < STATES_KEPT ? next + 1 : 0;
+            states[Math.floorMod(recorded, STATES_KEPT)].takeOver(sound);
+            recorded++;
             kept = Math.min(kept + 1, STATES_KEPT);
         }
 
         /** Makes the sound what it was before the latest change, and forgets that change. */
         void bringBack(Sound sound) {
-            next = next > 0 ? next - 1 : STATES_KEPT - 1;
+            recorded--;
             kept = Math.max(kept - 1, 0);
-            sound.takeOver(states[next]);
+            sound.takeOver(states[Math.floorMod(recorded, STATES_KEPT)]);
         }
     }
 
